@@ -818,9 +818,8 @@ public final class TurnedRows {
             }
         }
 
-        /** Reads the text into a row, as far as it has no fault, and returns the fault, or NONE. */
+        /** Reads the text into a row, and returns NONE; or returns its fault, and the row is of no use then. */
         int scan(Row result) {
-            result.clear(1);
             int places = 0;
             int number = NONE;
             for (int i = 0; i < codes.length && i < length; i++) {
@@ -832,7 +831,6 @@ public final class TurnedRows {
                 } else if (number == NONE) {
                     return i;
                 } else {
-                    result.resize(places + 1);
                     result.write(places, number);
                     places++;
                     number = NONE;

@@ -6,6 +6,7 @@ final class ProductsTest {
         promise3SetErrors();
         promise4Add();
         promise4AddErrors();
+        promise4AddBeyondTheEnd();
         promise5Product();
         promise5ProductErrors();
         promise6Round();
@@ -94,6 +95,35 @@ final class ProductsTest {
         Checks.unchanged(x, "add(0, 0, 257, -1)", Checks.NO_SUCH, () -> x.add(0, 0, 257, -1));
         Checks.unchanged(x, "add(0, 0, -1, 0)", Checks.BAD_VALUE, () -> x.add(0, 0, -1, 0));
         Checks.unchanged(x, "add(0, 0, 257, 0)", Checks.BAD_VALUE, () -> x.add(0, 0, 257, 0));
+    }
+
+    /** Beyond the end of a row is nothing, however it was made, also where longer rows were before. */
+    private static void promise4AddBeyondTheEnd() {
+        TurnedRows x = Checks.withRows(Checks.row(1, 2, 3), Checks.row(4, 5), Checks.all(64, 7), Checks.all(64, 0));
+        dueNothingBeyond(x, () -> x.product(0, 1, 4));
+        dueNothingBeyond(x, () -> x.round(0, 0, 4, 4));
+        dueNothingBeyond(x, () -> x.power(0, 2, 4));
+        dueNothingBeyond(x, () -> x.inverse(0, 4, 4));
+        dueNothingBeyond(x, () -> x.divide(2, 0, 5, 4));
+        dueNothingBeyond(x, () -> x.divide(0, 1, 4, 5));
+        dueNothingBeyond(x, () -> x.divisor(0, 2, 4));
+        dueNothingBeyond(x, () -> x.turn(0, 4, 4));
+        dueNothingBeyond(x, () -> x.turnBack(1, 4));
+        dueNothingBeyond(x, () -> x.add(0, 1, 9, 4));
+        x.add(2, 2, 1, 4);
+        Checks.type(x, "1,2");
+        dueNothingBeyond(x, () -> x.read(4));
+    }
+
+    /** The register 3 has 64 numbers that are 0, the register 2 has 64 other ones, the register 4 gets a row. */
+    private static void dueNothingBeyond(TurnedRows x, Runnable change) {
+        x.add(2, 2, 1, 4);
+        change.run();
+        int length = x.of(4, 0);
+        Checks.due("add(4, 3, 1, 4)", x.add(4, 3, 1, 4), 64);
+        for (int place = length; place < 64; place++) {
+            Checks.due("the number beyond the end at " + place, x.number(4, place), 0);
+        }
     }
 
     private static void promise5Product() {

@@ -8,6 +8,7 @@ final class SearchTest {
         promise19SumErrors();
         promise20Found();
         promise20FoundLong();
+        promise20FoundAtTheEnd();
         promise20FoundErrors();
         Checks.end();
     }
@@ -122,10 +123,24 @@ final class SearchTest {
         Checks.due("the last place: found(0, 4, 0)", x.found(0, 4, 0), 1);
         Checks.due("blanks: found(3, 1, 0)", x.found(3, 1, 0), 63);
         Checks.due("blanks: found(3, 5, 0)", x.found(3, 5, 0), 64);
-        Checks.due("the greatest sum at the last place", x.found(0, 5, 3), 0);
+        Checks.due("the greatest sum of a blank", x.found(0, 5, 3), 0);
         x.set(5, 0, 255);
         x.set(3, 63, 236);
-        Checks.due("found(3, 5, 3)", x.found(3, 5, 3), 256);
+        Checks.due("the greatest sum at the last place", x.found(3, 5, 3), 256);
+        x.set(3, 63, 0);
+        x.set(3, 0, 236);
+        Checks.due("the greatest sum at the first place", x.found(3, 5, 3), 256);
+    }
+
+    /** What would be found if the pattern could stand with its end beyond that of the text. */
+    private static void promise20FoundAtTheEnd() {
+        TurnedRows x = Checks.withRows(Checks.row(9, 2, 126), Checks.row(1, 3, 5), Checks.row(0, 255), Checks.row(236, 255));
+        Checks.due("found(0, 1, 0)", x.found(0, 1, 0), 0);
+        Checks.due("found(0, 1, 1)", x.found(0, 1, 1), 0);
+        Checks.due("found(0, 1, 2)", x.found(0, 1, 2), Checks.NONE);
+        Checks.due("found(2, 3, 3)", x.found(2, 3, 3), 0);
+        Checks.due("found(2, 3, 0)", x.found(2, 3, 0), 1);
+        Checks.due("fits(2, 3)", x.fits(2, 3), 1);
     }
 
     private static void promise20FoundErrors() {
