@@ -12,7 +12,7 @@ final class HistoryTest {
     }
 
     private static void promise24Undo() {
-        TurnedRows x = new TurnedRows();
+        Counted x = new Counted();
         Checks.unchanged(x, "undo of nothing", Checks.NOT_POSSIBLE, () -> x.undo());
         x.set(0, 0, 5);
         x.set(0, 1, 6);
@@ -38,7 +38,7 @@ final class HistoryTest {
     }
 
     private static void promise24UndoAtMostSix() {
-        TurnedRows x = new TurnedRows();
+        Counted x = new Counted();
         for (int number = 1; number <= 20; number++) {
             x.set(0, 0, number);
             Checks.due("count(2) after " + number, x.count(2), Math.min(number, 6));
@@ -59,12 +59,12 @@ final class HistoryTest {
     }
 
     private static void promise24WhatIsRecorded() {
-        TurnedRows x = Checks.withRows(Checks.row(1));
+        Counted x = Checks.withRows(Checks.row(1));
         for (int i = 0; i < 3; i++) {
             Checks.due("set to the same", x.set(0, 0, 1), 1);
             Checks.due("count(2)", x.count(2), i + 2);
         }
-        TurnedRows y = Checks.withRows(Checks.row(1));
+        Counted y = Checks.withRows(Checks.row(1));
         y.save(1);
         y.undo();
         Checks.changes(y, "restore(1)", 6, () -> y.restore(1));
@@ -77,14 +77,14 @@ final class HistoryTest {
         Checks.changes(y, "divisor(0, 0, 0)", 0, () -> y.divisor(0, 0, 0));
         Checks.changes(y, "turn(0, 1, 0)", 0, () -> y.turn(0, 1, 0));
         Checks.changes(y, "turnBack(0, 0)", 0, () -> y.turnBack(0, 0));
-        TurnedRows z = new TurnedRows();
+        Counted z = new Counted();
         Checks.type(z, "0");
         Checks.due("read(0)", z.read(0), 1);
         Checks.due("count(2)", z.count(2), 1);
     }
 
     private static void promise24WhatIsNotRecorded() {
-        TurnedRows x = Checks.withRows(Checks.row(1, 2), Checks.row(2));
+        Counted x = Checks.withRows(Checks.row(1, 2), Checks.row(2));
         x.number(0, 0);
         x.of(0, 4);
         x.value(0, 3);
@@ -104,7 +104,7 @@ final class HistoryTest {
     }
 
     private static void promise25Save() {
-        TurnedRows x = Checks.withRows(Checks.row(1, 2, 3), Checks.row(4));
+        Counted x = Checks.withRows(Checks.row(1, 2, 3), Checks.row(4));
         Checks.type(x, "5,6");
         Checks.unchanged(x, "save(0)", 8, () -> x.save(0));
         Checks.unchanged(x, "save(-1)", Checks.BAD_VALUE, () -> x.save(-1));
@@ -123,7 +123,7 @@ final class HistoryTest {
     }
 
     private static void promise26Restore() {
-        TurnedRows x = Checks.withRows(Checks.row(1, 2, 3), Checks.row(4));
+        Counted x = Checks.withRows(Checks.row(1, 2, 3), Checks.row(4));
         Checks.type(x, "5,6");
         x.save(1);
         x.round(0, 0, 64, 0);
@@ -145,7 +145,7 @@ final class HistoryTest {
     }
 
     private static void promise26RestoreErrors() {
-        TurnedRows x = Checks.withRows(Checks.row(1, 2));
+        Counted x = Checks.withRows(Checks.row(1, 2));
         Checks.unchanged(x, "restore(-1)", Checks.BAD_VALUE, () -> x.restore(-1));
         Checks.unchanged(x, "restore(2)", Checks.BAD_VALUE, () -> x.restore(2));
         Checks.unchanged(x, "restore(0)", Checks.NOT_POSSIBLE, () -> x.restore(0));

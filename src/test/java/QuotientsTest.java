@@ -12,14 +12,14 @@ final class QuotientsTest {
     }
 
     private static void promise9Divide() {
-        TurnedRows x = Checks.withRows(Checks.row(256, 0, 0, 1), Checks.row(256, 1), Checks.row(4, 13, 22, 15));
+        Counted x = Checks.withRows(Checks.row(256, 0, 0, 1), Checks.row(256, 1), Checks.row(4, 13, 22, 15));
         Checks.changes(x, "divide(0, 1, 3, 4)", Checks.NONE, () -> x.divide(0, 1, 3, 4));
         Checks.dueRow("divide(0, 1, 3, 4): quotient", x, 3, 1, 1, 1);
         Checks.dueRow("divide(0, 1, 3, 4): rest", x, 4, 0);
         Checks.changes(x, "divide(2, 1, 4, 3)", 0, () -> x.divide(2, 1, 4, 3));
         Checks.dueRow("divide(2, 1, 4, 3): quotient", x, 4, 50, 37, 15);
         Checks.dueRow("divide(2, 1, 4, 3): rest", x, 3, 54);
-        TurnedRows y = Checks.withRows(Checks.row(5, 6, 7), Checks.row(0, 2));
+        Counted y = Checks.withRows(Checks.row(5, 6, 7), Checks.row(0, 2));
         Checks.due("divide(0, 1, 2, 3)", y.divide(0, 1, 2, 3), 0);
         Checks.dueRow("a divisor whose last number is not 1", y, 2, 3, 132);
         Checks.dueRow("its rest", y, 3, 5);
@@ -27,7 +27,7 @@ final class QuotientsTest {
 
     private static void promise9DivideLengths() {
         // Numbers that are 0 at the ends count neither for the quotient nor for the rest.
-        TurnedRows x = Checks.withRows(
+        Counted x = Checks.withRows(
                 Checks.row(7, 8, 0, 0), Checks.row(1, 2, 0, 4, 0), Checks.row(3, 0), Checks.row(0, 0, 0));
         Checks.changes(x, "divide(0, 1, 4, 5)", 1, () -> x.divide(0, 1, 4, 5));
         Checks.dueRow("a lower degree: quotient", x, 4, 0);
@@ -46,7 +46,7 @@ final class QuotientsTest {
         Checks.changes(x, "divide(3, 2, 4, 5)", Checks.NONE, () -> x.divide(3, 2, 4, 5));
         Checks.dueRow("all 0 by a number: quotient", x, 4, 0);
         Checks.dueRow("all 0 by a number: rest", x, 5, 0);
-        TurnedRows longest = Checks.withRows(Checks.all(64, 1), Checks.all(64, 2), Checks.row(1));
+        Counted longest = Checks.withRows(Checks.all(64, 1), Checks.all(64, 2), Checks.row(1));
         Checks.due("two of 64", longest.divide(0, 1, 3, 4), Checks.NONE);
         Checks.dueRow("two of 64: quotient", longest, 3, 129);
         Checks.dueRow("two of 64: rest", longest, 4, Checks.all(63, 0));
@@ -57,7 +57,7 @@ final class QuotientsTest {
     }
 
     private static void promise9DivideIntoItsOwnRows() {
-        TurnedRows x = Checks.withRows(Checks.row(256, 0, 0, 1), Checks.row(255, 1));
+        Counted x = Checks.withRows(Checks.row(256, 0, 0, 1), Checks.row(255, 1));
         Checks.changes(x, "divide(0, 1, 1, 0)", 0, () -> x.divide(0, 1, 1, 0));
         Checks.dueRow("quotient", x, 1, 4, 2, 1);
         Checks.dueRow("rest", x, 0, 7);
@@ -67,7 +67,7 @@ final class QuotientsTest {
     }
 
     private static void promise9DivideErrors() {
-        TurnedRows x = Checks.withRows(Checks.row(1, 2), Checks.row(0, 0));
+        Counted x = Checks.withRows(Checks.row(1, 2), Checks.row(0, 0));
         Checks.unchanged(x, "divide(6, 0, 2, 3)", Checks.NO_SUCH, () -> x.divide(6, 0, 2, 3));
         Checks.unchanged(x, "divide(0, 6, 2, 3)", Checks.NO_SUCH, () -> x.divide(0, 6, 2, 3));
         Checks.unchanged(x, "divide(0, 0, 6, 3)", Checks.NO_SUCH, () -> x.divide(0, 0, 6, 3));
@@ -81,7 +81,7 @@ final class QuotientsTest {
 
     private static void promise10Divisor() {
         // (1 + x)(2 + x)(3 + 5x) and (1 + x)(2 + x)(7 + xx)
-        TurnedRows x = Checks.withRows(
+        Counted x = Checks.withRows(
                 Checks.row(6, 19, 18, 5), Checks.row(14, 21, 9, 3, 1), Checks.row(0, 0), Checks.row(9, 0, 0));
         Checks.changes(x, "divisor(0, 1, 4)", 2, () -> x.divisor(0, 1, 4));
         Checks.dueRow("divisor(0, 1, 4)", x, 4, 2, 3, 1);
@@ -108,18 +108,18 @@ final class QuotientsTest {
         int[] second = Checks.all(63, 0);
         second[0] = 256;
         second[62] = 1;
-        TurnedRows x = Checks.withRows(first, second, Checks.all(64, 3), Checks.all(32, 5));
+        Counted x = Checks.withRows(first, second, Checks.all(64, 3), Checks.all(32, 5));
         Checks.due("divisor of degrees 63 and 62", x.divisor(0, 1, 4), 1);
         Checks.dueRow("divisor of degrees 63 and 62", x, 4, 256, 1);
         Checks.due("divisor of 64 and 32", x.divisor(3, 2, 5), 31);
         Checks.dueRow("divisor of 64 and 32", x, 5, Checks.all(32, 1));
-        TurnedRows y = fibonacci();
+        Counted y = fibonacci();
         Checks.due("a divisor by 63 steps", y.divisor(0, 1, 2), 0);
         Checks.dueRow("a divisor by 63 steps", y, 2, 1);
     }
 
     /** Two rows of the degrees 63 and 62 whose quotients are all x: no other ones take more steps. */
-    private static TurnedRows fibonacci() {
+    private static Counted fibonacci() {
         int[] lower = Checks.row(1);
         int[] upper = Checks.row(0, 1);
         while (upper.length < 64) {
@@ -135,7 +135,7 @@ final class QuotientsTest {
     }
 
     private static void promise10DivisorErrors() {
-        TurnedRows x = Checks.withRows(Checks.row(1, 2), Checks.row(0, 0));
+        Counted x = Checks.withRows(Checks.row(1, 2), Checks.row(0, 0));
         Checks.unchanged(x, "divisor(6, 0, 0)", Checks.NO_SUCH, () -> x.divisor(6, 0, 0));
         Checks.unchanged(x, "divisor(0, 6, 0)", Checks.NO_SUCH, () -> x.divisor(0, 6, 0));
         Checks.unchanged(x, "divisor(1, 1, 6)", Checks.NO_SUCH, () -> x.divisor(1, 1, 6));

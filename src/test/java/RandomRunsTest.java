@@ -8,7 +8,7 @@ final class RandomRunsTest {
     private long seed;
     /** Few different numbers make texts in which patterns fit. */
     private int numbers;
-    private final TurnedRows x = new TurnedRows();
+    private final Counted x = new Counted();
     private final Model y = new Model();
 
     private RandomRunsTest(int run) {

@@ -11,7 +11,7 @@ final class ReadingsTest {
     }
 
     private static void promise13Number() {
-        TurnedRows x = Checks.withRows(Checks.row(5, 256, 0), Checks.all(64, 8));
+        Counted x = Checks.withRows(Checks.row(5, 256, 0), Checks.all(64, 8));
         Checks.unchanged(x, "number(0, 0)", 5, () -> x.number(0, 0));
         Checks.due("number(0, 1)", x.number(0, 1), 256);
         Checks.due("number(0, 2)", x.number(0, 2), 0);
@@ -25,7 +25,7 @@ final class ReadingsTest {
     }
 
     private static void promise14Of() {
-        TurnedRows x = Checks.withRows(Checks.row(0, 256, 0, 200, 0), Checks.row(0, 0), Checks.all(64, 256));
+        Counted x = Checks.withRows(Checks.row(0, 256, 0, 200, 0), Checks.row(0, 0), Checks.all(64, 256));
         Checks.unchanged(x, "of(0, 0)", 5, () -> x.of(0, 0));
         Checks.unchanged(x, "of(0, 1)", 3, () -> x.of(0, 1));
         Checks.unchanged(x, "of(0, 2)", 2, () -> x.of(0, 2));
@@ -43,7 +43,7 @@ final class ReadingsTest {
 
     private static void promise14OfRoots() {
         // (x - 1)(x - 2)(x - 3); x; 7; (x + 1)(x + 1); x^64 - 1 without x - 1
-        TurnedRows x = Checks.withRows(Checks.row(251, 11, 251, 1), Checks.row(0, 1), Checks.row(7),
+        Counted x = Checks.withRows(Checks.row(251, 11, 251, 1), Checks.row(0, 1), Checks.row(7),
                 Checks.row(1, 2, 1), Checks.all(64, 1));
         Checks.unchanged(x, "of(0, 4)", 3, () -> x.of(0, 4));
         Checks.unchanged(x, "of(0, 5)", 1, () -> x.of(0, 5));
@@ -60,7 +60,7 @@ final class ReadingsTest {
     }
 
     private static void promise14OfErrors() {
-        TurnedRows x = new TurnedRows();
+        Counted x = new Counted();
         Checks.unchanged(x, "of(6, 0)", Checks.NO_SUCH, () -> x.of(6, 0));
         Checks.unchanged(x, "of(-1, 6)", Checks.NO_SUCH, () -> x.of(-1, 6));
         Checks.unchanged(x, "of(0, 6)", Checks.BAD_VALUE, () -> x.of(0, 6));
@@ -68,7 +68,7 @@ final class ReadingsTest {
     }
 
     private static void promise15Value() {
-        TurnedRows x = Checks.withRows(Checks.row(1, 2, 3), Checks.all(64, 256));
+        Counted x = Checks.withRows(Checks.row(1, 2, 3), Checks.all(64, 256));
         Checks.unchanged(x, "value(0, 0)", 1, () -> x.value(0, 0));
         Checks.due("value(0, 1)", x.value(0, 1), 6);
         Checks.due("value(0, 10)", x.value(0, 10), 64);
@@ -83,7 +83,7 @@ final class ReadingsTest {
     }
 
     private static void promise17Count() {
-        TurnedRows x = Checks.withRows(Checks.row(1, 2, 3), Checks.row(4, 5));
+        Counted x = Checks.withRows(Checks.row(1, 2, 3), Checks.row(4, 5));
         Checks.type(x, "1,,");
         Checks.unchanged(x, "count(0)", 9, () -> x.count(0));
         Checks.unchanged(x, "count(1)", 3, () -> x.count(1));

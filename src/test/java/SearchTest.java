@@ -14,7 +14,7 @@ final class SearchTest {
     }
 
     private static void promise18Fits() {
-        TurnedRows x = Checks.withRows(Checks.row(1, 2, 0, 2, 3), Checks.row(1, 2), Checks.row(1, 0, 1), Checks.row(3));
+        Counted x = Checks.withRows(Checks.row(1, 2, 0, 2, 3), Checks.row(1, 2), Checks.row(1, 0, 1), Checks.row(3));
         Checks.unchanged(x, "fits(0, 1)", 0b101, () -> (int) x.fits(0, 1));
         Checks.due("fits(0, 1) as a whole", x.fits(0, 1), 0b0101L);
         Checks.due("fits(0, 2)", x.fits(0, 2), 0b001L);
@@ -28,7 +28,7 @@ final class SearchTest {
     }
 
     private static void promise18FitsLong() {
-        TurnedRows x = Checks.withRows(Checks.all(64, 0), Checks.row(9), Checks.all(5, 9), Checks.all(64, 9));
+        Counted x = Checks.withRows(Checks.all(64, 0), Checks.row(9), Checks.all(5, 9), Checks.all(64, 9));
         long below60 = (1L << 60) - 1;
         Checks.due("fits(0, 1)", x.fits(0, 1), below60);
         Checks.due("fits(0, 2)", x.fits(0, 2), below60);
@@ -46,7 +46,7 @@ final class SearchTest {
     }
 
     private static void promise18FitsErrors() {
-        TurnedRows x = Checks.withRows(Checks.row(1), Checks.row(0, 0));
+        Counted x = Checks.withRows(Checks.row(1), Checks.row(0, 0));
         Checks.unchanged(x, "fits(6, 0)", Checks.NO_SUCH, () -> x.fits(6, 0));
         Checks.unchanged(x, "fits(0, 6)", Checks.NO_SUCH, () -> x.fits(0, 6));
         Checks.unchanged(x, "fits(-1, 1)", Checks.NO_SUCH, () -> x.fits(-1, 1));
@@ -54,7 +54,7 @@ final class SearchTest {
     }
 
     private static void promise19Sum() {
-        TurnedRows x = Checks.withRows(Checks.row(1, 2, 0, 4), Checks.row(1, 2), Checks.row(256), Checks.row(255),
+        Counted x = Checks.withRows(Checks.row(1, 2, 0, 4), Checks.row(1, 2), Checks.row(256), Checks.row(255),
                 Checks.row(236));
         Checks.unchanged(x, "sum(0, 1, 0)", 0, () -> x.sum(0, 1, 0));
         Checks.due("sum(0, 1, 1)", x.sum(0, 1, 1), 2);
@@ -68,12 +68,12 @@ final class SearchTest {
         Checks.due("sum(4, 3, 0)", x.sum(4, 3, 0), 256);
         Checks.due("sum(5, 3, 0)", x.sum(5, 3, 0), 0);
         Checks.due("sum(3, 5, 0)", x.sum(3, 5, 0), 0);
-        TurnedRows y = Checks.withRows(Checks.all(64, 255), Checks.all(64, 236));
+        Counted y = Checks.withRows(Checks.all(64, 255), Checks.all(64, 236));
         Checks.due("sum of 64", y.sum(0, 1, 0), 257 - 64);
     }
 
     private static void promise19SumErrors() {
-        TurnedRows x = Checks.withRows(Checks.row(1, 2, 3), Checks.row(1, 2), Checks.all(4, 0));
+        Counted x = Checks.withRows(Checks.row(1, 2, 3), Checks.row(1, 2), Checks.all(4, 0));
         Checks.unchanged(x, "sum(6, 0, 0)", Checks.NO_SUCH, () -> x.sum(6, 0, 0));
         Checks.unchanged(x, "sum(0, 6, -1)", Checks.NO_SUCH, () -> x.sum(0, 6, -1));
         Checks.unchanged(x, "sum(0, 2, 0)", Checks.NOT_POSSIBLE, () -> x.sum(0, 2, 0));
@@ -87,7 +87,7 @@ final class SearchTest {
 
     private static void promise20Found() {
         // 1 and 3 against 2 and 126 (or 191, or 203): the sum is 2 + 255, so that these places are false ones.
-        TurnedRows x = Checks.withRows(Checks.row(1, 3, 2, 126, 2, 191, 1, 0), Checks.row(1, 3), Checks.row(1, 4));
+        Counted x = Checks.withRows(Checks.row(1, 3, 2, 126, 2, 191, 1, 0), Checks.row(1, 3), Checks.row(1, 4));
         Checks.unchanged(x, "found(0, 1, 0)", 2, () -> x.found(0, 1, 0));
         Checks.unchanged(x, "found(0, 1, 1)", 2, () -> x.found(0, 1, 1));
         Checks.unchanged(x, "found(0, 1, 2)", 2, () -> x.found(0, 1, 2));
@@ -105,7 +105,7 @@ final class SearchTest {
         Checks.due("found(0, 5, 0)", x.found(0, 5, 0), 8);
         Checks.due("found(0, 5, 1)", x.found(0, 5, 1), 0);
         Checks.due("found(0, 5, 3)", x.found(0, 5, 3), 0);
-        TurnedRows y = Checks.withRows(Checks.row(2, 126), Checks.row(1, 3));
+        Counted y = Checks.withRows(Checks.row(2, 126), Checks.row(1, 3));
         Checks.due("a false one at 0: found(0, 1, 0)", y.found(0, 1, 0), 0);
         Checks.due("a false one at 0: found(0, 1, 1)", y.found(0, 1, 1), 1);
         Checks.due("a false one at 0: found(0, 1, 2)", y.found(0, 1, 2), 0);
@@ -115,7 +115,7 @@ final class SearchTest {
         int[] text = Checks.all(64, 1);
         text[62] = 2;
         text[63] = 126;
-        TurnedRows x = Checks.withRows(text, Checks.row(1, 3), Checks.row(2), Checks.all(64, 0), Checks.row(126));
+        Counted x = Checks.withRows(text, Checks.row(1, 3), Checks.row(2), Checks.all(64, 0), Checks.row(126));
         Checks.due("a false one at 62: found(0, 1, 1)", x.found(0, 1, 1), 1);
         Checks.due("a false one at 62: found(0, 1, 2)", x.found(0, 1, 2), 62);
         Checks.due("a place above 60: found(0, 2, 0)", x.found(0, 2, 0), 1);
@@ -134,7 +134,7 @@ final class SearchTest {
 
     /** What would be found if the pattern could stand with its end beyond that of the text. */
     private static void promise20FoundAtTheEnd() {
-        TurnedRows x = Checks.withRows(Checks.row(9, 2, 126), Checks.row(1, 3, 5), Checks.row(0, 255), Checks.row(236, 255));
+        Counted x = Checks.withRows(Checks.row(9, 2, 126), Checks.row(1, 3, 5), Checks.row(0, 255), Checks.row(236, 255));
         Checks.due("found(0, 1, 0)", x.found(0, 1, 0), 0);
         Checks.due("found(0, 1, 1)", x.found(0, 1, 1), 0);
         Checks.due("found(0, 1, 2)", x.found(0, 1, 2), Checks.NONE);
@@ -144,7 +144,7 @@ final class SearchTest {
     }
 
     private static void promise20FoundErrors() {
-        TurnedRows x = Checks.withRows(Checks.row(1), Checks.row(1, 2));
+        Counted x = Checks.withRows(Checks.row(1), Checks.row(1, 2));
         Checks.unchanged(x, "found(6, 0, 0)", Checks.NO_SUCH, () -> x.found(6, 0, 0));
         Checks.unchanged(x, "found(0, 6, 4)", Checks.NO_SUCH, () -> x.found(0, 6, 4));
         Checks.unchanged(x, "found(0, 1, 0)", Checks.NOT_POSSIBLE, () -> x.found(0, 1, 0));

@@ -14,7 +14,7 @@ final class TextsTest {
     }
 
     private static void promise2Read() {
-        TurnedRows x = new TurnedRows();
+        Counted x = new Counted();
         Checks.type(x, "0,256,10,0");
         Checks.due("read(3)", x.read(3), 4);
         Checks.dueRow("read(3)", x, 3, 0, 256, 10, 0);
@@ -38,7 +38,7 @@ final class TextsTest {
     }
 
     private static void promise2ReadLong() {
-        TurnedRows x = new TurnedRows();
+        Counted x = new Counted();
         StringBuilder text = new StringBuilder("7");
         for (int place = 1; place < 40; place++) {
             text.append(",").append(place % 10);
@@ -58,7 +58,7 @@ final class TextsTest {
     }
 
     private static void promise2ReadErrors() {
-        TurnedRows x = new TurnedRows();
+        Counted x = new Counted();
         Checks.unchanged(x, "read(0) of nothing", Checks.BAD_TEXT, () -> x.read(0));
         Checks.unchanged(x, "read(6) of nothing", Checks.NO_SUCH, () -> x.read(6));
         Checks.unchanged(x, "read(-1) of nothing", Checks.NO_SUCH, () -> x.read(-1));
@@ -71,7 +71,7 @@ final class TextsTest {
     }
 
     private static void promise21Put() {
-        TurnedRows x = new TurnedRows();
+        Counted x = new Counted();
         Checks.due("put of 1,2", x.put('1' << 16 | ',' << 8 | '2'), 3);
         Checks.due("put of ,", x.put(','), 4);
         Checks.due("put of 34,56,78", x.put(0x33342C35362C3738L), 12);
@@ -85,23 +85,23 @@ final class TextsTest {
     }
 
     private static void promise21PutErrors() {
-        TurnedRows x = new TurnedRows();
-        Checks.type(x, "12");
         long[] wrong = {0, 32, 127, 128, 255, 1, 0x3100, 0x310032, 0x31000000L, 0x3132_0033_3435_3637L,
             0x0100_0000_0000_0031L, 0x3100_0000_0000_0031L, 0x8131313131313131L, 0xFF31313131313131L,
             0x2031313131313131L, 0x3131313131313120L, 0x313131317F313131L, 0x3131313131313100L,
             -1, Long.MIN_VALUE, Long.MAX_VALUE};
         for (long characters : wrong) {
+            Counted x = new Counted();
+            Checks.type(x, "12");
             Checks.unchanged(x, "put(" + Long.toHexString(characters) + ")", Checks.BAD_VALUE, () -> x.put(characters));
         }
         for (long code = 0; code < 256; code++) {
-            TurnedRows y = new TurnedRows();
+            Counted y = new Counted();
             Checks.due("put(" + code + ")", y.put(code), code >= 33 && code <= 126 ? 1 : Checks.BAD_VALUE);
         }
     }
 
     private static void promise21PutTooMany() {
-        TurnedRows x = new TurnedRows();
+        Counted x = new Counted();
         Checks.type(x, "1,".repeat(37));
         Checks.due("74 characters", x.count(1), 74);
         Checks.unchanged(x, "put of 8", Checks.TOO_MANY, () -> x.put(Checks.pack("12345678")));
@@ -114,7 +114,7 @@ final class TextsTest {
     }
 
     private static void promise22Wipe() {
-        TurnedRows x = new TurnedRows();
+        Counted x = new Counted();
         Checks.due("wipe of nothing", x.wipe(), 0);
         Checks.type(x, "1,2,3,4,5x");
         Checks.due("wipe", x.wipe(), 10);
@@ -155,7 +155,7 @@ final class TextsTest {
     }
 
     private static void dueFault(String text, int want) {
-        TurnedRows x = new TurnedRows();
+        Counted x = new Counted();
         Checks.type(x, text);
         Checks.unchanged(x, "fault of '" + text + "'", want, () -> x.fault());
         Checks.due("read of '" + text + "'", Math.min(x.read(0), 0), want == Checks.NONE ? 0 : Checks.BAD_TEXT);

@@ -14,7 +14,7 @@ final class TurningTest {
     }
 
     private static void promise11Turn() {
-        TurnedRows x = Checks.withRows(Checks.row(1, 2, 3), Checks.row(256, 0, 1), Checks.row(0, 0), Checks.row(5));
+        Counted x = Checks.withRows(Checks.row(1, 2, 3), Checks.row(256, 0, 1), Checks.row(0, 0), Checks.row(5));
         Checks.changes(x, "turn(0, 4, 5)", 0, () -> x.turn(0, 4, 5));
         Checks.dueRow("turn(0, 4, 5)", x, 5, 6, 223, 2, 30);
         Checks.changes(x, "turn(1, 4, 5)", 2, () -> x.turn(1, 4, 5));
@@ -28,7 +28,7 @@ final class TurningTest {
         Checks.due("turn(0, 4, 0)", x.turn(0, 4, 0), 0);
         Checks.dueRow("turn(0, 4, 0)", x, 0, 6, 223, 2, 30);
         for (int i = 1; i < SIZES.length; i++) {
-            TurnedRows y = Checks.withRows(Checks.row(0, 1));
+            Counted y = Checks.withRows(Checks.row(0, 1));
             Checks.due("turn(0, " + SIZES[i] + ", 1) of x", y.turn(0, SIZES[i], 1), 0);
             int[] powers = Checks.all(SIZES[i], 1);
             for (int k = 1; k < powers.length; k++) {
@@ -39,11 +39,12 @@ final class TurningTest {
     }
 
     private static void promise11TurnErrors() {
-        TurnedRows x = Checks.withRows(Checks.row(1, 2, 0));
+        Counted x = Checks.withRows(Checks.row(1, 2, 0));
         Checks.unchanged(x, "turn(6, 4, 0)", Checks.NO_SUCH, () -> x.turn(6, 4, 0));
         Checks.unchanged(x, "turn(0, 3, 6)", Checks.NO_SUCH, () -> x.turn(0, 3, 6));
         for (int size : new int[] {0, -1, 3, 5, 6, 63, 65, 128, 256, -64, Integer.MIN_VALUE, Integer.MAX_VALUE}) {
-            Checks.unchanged(x, "turn(0, " + size + ", 1)", Checks.BAD_VALUE, () -> x.turn(0, size, 1));
+            Counted y = Checks.withRows(Checks.row(1, 2, 0));
+            Checks.unchanged(y, "turn(0, " + size + ", 1)", Checks.BAD_VALUE, () -> y.turn(0, size, 1));
         }
         Checks.unchanged(x, "turn(0, 2, 1)", Checks.NOT_POSSIBLE, () -> x.turn(0, 2, 1));
         Checks.unchanged(x, "turn(0, 1, 1)", Checks.NOT_POSSIBLE, () -> x.turn(0, 1, 1));
@@ -51,7 +52,7 @@ final class TurningTest {
     }
 
     private static void promise12TurnBack() {
-        TurnedRows x = Checks.withRows(Checks.row(6, 223, 2, 30), Checks.row(0, 0), Checks.row(9), Checks.all(64, 7));
+        Counted x = Checks.withRows(Checks.row(6, 223, 2, 30), Checks.row(0, 0), Checks.row(9), Checks.all(64, 7));
         Checks.changes(x, "turnBack(0, 4)", 2, () -> x.turnBack(0, 4));
         Checks.dueRow("turnBack(0, 4)", x, 4, 1, 2, 3, 0);
         Checks.changes(x, "turnBack(1, 4)", Checks.NONE, () -> x.turnBack(1, 4));
@@ -69,7 +70,7 @@ final class TurningTest {
                 row[k] = (k * k + 31 * k + 256) % 257;
             }
             row[size - 1] = 1;
-            TurnedRows y = Checks.withRows(row);
+            Counted y = Checks.withRows(row);
             y.turn(0, size, 1);
             Checks.due("turnBack(1, 2) of " + size, y.turnBack(1, 2), size - 1);
             Checks.dueRow("turnBack(1, 2) of " + size, y, 2, row);
@@ -77,7 +78,7 @@ final class TurningTest {
     }
 
     private static void promise12TurnBackErrors() {
-        TurnedRows x = Checks.withRows(Checks.row(1, 2, 0), Checks.all(63, 0), Checks.row(1));
+        Counted x = Checks.withRows(Checks.row(1, 2, 0), Checks.all(63, 0), Checks.row(1));
         Checks.unchanged(x, "turnBack(6, 0)", Checks.NO_SUCH, () -> x.turnBack(6, 0));
         Checks.unchanged(x, "turnBack(0, 6)", Checks.NO_SUCH, () -> x.turnBack(0, 6));
         Checks.unchanged(x, "turnBack(-1, 0)", Checks.NO_SUCH, () -> x.turnBack(-1, 0));
@@ -86,7 +87,7 @@ final class TurningTest {
     }
 
     private static void promise16TurningPoint() {
-        TurnedRows x = new TurnedRows();
+        Counted x = new Counted();
         for (int i = 0; i < SIZES.length; i++) {
             Checks.unchanged(x, "turningPoint(" + SIZES[i] + ", 1)", POINTS[i], at(x, SIZES[i], 1));
             Checks.due("turningPoint(" + SIZES[i] + ", 0)", x.turningPoint(SIZES[i], 0), 1);
@@ -102,12 +103,12 @@ final class TurningTest {
         Checks.due("turningPoint(2, 999)", x.turningPoint(2, 999), 256);
     }
 
-    private static java.util.function.LongSupplier at(TurnedRows x, int size, int power) {
+    private static java.util.function.LongSupplier at(Counted x, int size, int power) {
         return () -> x.turningPoint(size, power);
     }
 
     private static void promise16TurningPointErrors() {
-        TurnedRows x = new TurnedRows();
+        Counted x = new Counted();
         for (int size : new int[] {0, -1, 3, 63, 65, 128, 256, Integer.MIN_VALUE, Integer.MAX_VALUE}) {
             Checks.unchanged(x, "turningPoint(" + size + ", 1)", Checks.BAD_VALUE, at(x, size, 1));
         }
