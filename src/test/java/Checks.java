@@ -5,7 +5,7 @@ final class Checks {
     static final int NO_SUCH = -1, BAD_VALUE = -2, BAD_TEXT = -3, TOO_MANY = -4, NOT_POSSIBLE = -5, NONE = -6;
 
     /** Far more than any test needs: what is still running then does not end. */
-    private static final long MOST_MILLISECONDS = 300_000;
+    private static final long MOST_MILLISECONDS = 180_000;
 
     private static int wrong = 0;
 
@@ -18,6 +18,7 @@ final class Checks {
     private Checks() {
     }
 
+    /** Ends with 2, by which .ci/run knows that it need not wait for the other tests. */
     private static void failWhenItDoesNotEnd() {
         try {
             Thread.sleep(MOST_MILLISECONDS);
@@ -25,7 +26,7 @@ final class Checks {
             return;
         }
         System.out.println("a call does not end");
-        Runtime.getRuntime().halt(1);
+        Runtime.getRuntime().halt(2);
     }
 
     static void due(String call, long got, long want) {
