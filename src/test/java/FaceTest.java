@@ -74,7 +74,7 @@ final class FaceTest {
         int[] extremes = {Integer.MIN_VALUE, Integer.MIN_VALUE + 1, -1, 0, 1, 64, 65, Integer.MAX_VALUE};
         for (int a : extremes) {
             for (int b : extremes) {
-                TurnedRows x = new TurnedRows();
+                Counted x = new Counted();
                 for (int c : extremes) {
                     x.set(a, b, c);
                     x.add(a, b, c, b);
