@@ -190,20 +190,46 @@ final class Checks {
         if (slot1) {
             x.save(1);
         }
+        fillLongRows(x);
+        return x;
+    }
+
+    private static void fillLongRows(Counted x) {
         x.inverse(0, 64, 4);
         x.round(0, 0, 33, 5);
         x.set(0, 1, 2);
         type(x, "7,8");
+    }
+
+    /** The same rows, but in both slots, and in the states of the history, there are six long ones each. */
+    static Counted fullOfLongSlots() {
+        Counted x = new Counted();
+        fill(x, 0, 7, 1, 2);
+        for (int register = 1; register < 6; register++) {
+            x.inverse(0, 64 - 9 * register, register);
+        }
+        x.inverse(0, 64, 0);
+        x.save(0);
+        for (int register = 0; register < 6; register++) {
+            x.add(register, 5 - register, 3, register);
+        }
+        x.save(1);
+        fill(x, 0, 1, 9, 3);
+        fill(x, 1, 0, 0);
+        fill(x, 2, 5);
+        fill(x, 3, 0, 4);
+        fillLongRows(x);
         return x;
     }
 
     /** The lengths of the two longest rows of a full object; the others are 1,2,3 and 0,0 and 5 and 0,4. */
     static final int LENGTH_4 = 64, LENGTH_5 = 33;
 
-    /** Checks that a call is refused, and leaves a full object as it was, and one with empty slots. */
+    /** Checks that a call is refused, and leaves a full object as it was, and one with empty slots, or long rows in them. */
     static void refused(String call, long want, Call answer) {
         leaves(Checks::full, call, want, answer);
         leaves(() -> full(false, false), call + ", empty slots", want, answer);
+        leaves(Checks::fullOfLongSlots, call + ", long slots", want, answer);
     }
 
     /** Checks that a call that is no change gives its answer, and leaves these objects as they were. */

@@ -34,6 +34,8 @@ final class FaceTest {
 
     private static void constructor() {
         Checks.dueText("the class", Modifier.toString(TurnedRows.class.getModifiers()), "public final");
+        Checks.dueText("what it extends", TurnedRows.class.getSuperclass().getName(), "java.lang.Object");
+        Checks.due("what it implements", TurnedRows.class.getInterfaces().length, 0);
         Constructor<?>[] all = TurnedRows.class.getDeclaredConstructors();
         Checks.due("constructors", all.length, 1);
         Checks.dueText("the constructor", all[0].toString(), "public TurnedRows()");
@@ -44,11 +46,15 @@ final class FaceTest {
         TreeSet<String> publicNames = new TreeSet<>();
         for (Method method : TurnedRows.class.getDeclaredMethods()) {
             if (!Modifier.isPrivate(method.getModifiers())) {
-                seen.add(method.toString().replace("public ", "").replace("TurnedRows.", ""));
+                seen.add(method.toString().replace("TurnedRows.", ""));
                 publicNames.add(method.getName());
             }
         }
-        Checks.dueText("the methods", seen.toString(), new TreeSet<>(java.util.List.of(METHODS)).toString());
+        TreeSet<String> due = new TreeSet<>();
+        for (String method : METHODS) {
+            due.add("public " + method);
+        }
+        Checks.dueText("the methods", seen.toString(), due.toString());
         for (Method method : TurnedRows.class.getDeclaredMethods()) {
             boolean hidden = Modifier.isPrivate(method.getModifiers());
             Checks.due(method + " bears the name of a public one",

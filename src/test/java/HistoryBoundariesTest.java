@@ -7,6 +7,7 @@ final class HistoryBoundariesTest {
 
     public static void main(String[] args) {
         objectIsUsedForAtMost512Calls();
+        eachMethodAsThe512thCall();
         promise24NoneToUndo();
         promise24AtMostSixStates();
         promise24SeventhDropsTheOldest();
@@ -65,6 +66,46 @@ final class HistoryBoundariesTest {
             Checks.due("restore of the call " + call, slots.restore(call % 2), 6);
         }
         Checks.dueCalls(slots, 0);
+    }
+
+    /** Each method as the last call that an object is used for: the register 0 is 1,2,3, the register 1 is 4,5. */
+    private static void eachMethodAsThe512thCall() {
+        dueAsThe512thCall("put", 4, x -> x.put('8'));
+        dueAsThe512thCall("wipe", 3, x -> x.wipe());
+        dueAsThe512thCall("fault", Checks.NONE, x -> x.fault());
+        dueAsThe512thCall("read", 2, x -> x.read(5));
+        dueAsThe512thCall("set", 4, x -> x.set(0, 3, 9));
+        dueAsThe512thCall("add", 3, x -> x.add(0, 1, 256, 5));
+        dueAsThe512thCall("product", 4, x -> x.product(0, 1, 5));
+        dueAsThe512thCall("round", 2, x -> x.round(0, 1, 3, 5));
+        dueAsThe512thCall("power", 13, x -> x.power(0, 6, 5));
+        dueAsThe512thCall("inverse", 63, x -> x.inverse(0, 64, 5));
+        dueAsThe512thCall("divide", 0, x -> x.divide(0, 1, 4, 5));
+        dueAsThe512thCall("divisor", 0, x -> x.divisor(0, 1, 5));
+        dueAsThe512thCall("turn", 1, x -> x.turn(0, 64, 5));
+        dueAsThe512thCall("turnBack", 1, x -> x.turnBack(1, 5));
+        dueAsThe512thCall("number", 3, x -> x.number(0, 2));
+        dueAsThe512thCall("of", 9, x -> x.of(1, 3));
+        dueAsThe512thCall("value", 64, x -> x.value(0, 10));
+        dueAsThe512thCall("turningPoint", 193, x -> x.turningPoint(64, 1000));
+        dueAsThe512thCall("count", 9, x -> x.count(0));
+        dueAsThe512thCall("fits", 0, x -> x.fits(0, 1));
+        dueAsThe512thCall("sum", 4 * 9 + 5 * 2 * 9, x -> x.sum(0, 1, 0));
+        dueAsThe512thCall("found", 0, x -> x.found(0, 1, 0));
+        dueAsThe512thCall("undo", 5, x -> x.undo());
+        dueAsThe512thCall("save", 9, x -> x.save(1));
+        dueAsThe512thCall("restore", 9, x -> x.restore(0));
+    }
+
+    private static void dueAsThe512thCall(String name, long want, Checks.Call answer) {
+        Counted x = Checks.withRows(Checks.row(1, 2, 3), Checks.row(4, 5));
+        x.save(0);
+        Checks.type(x, "6,7");
+        while (x.callsLeft() > 1) {
+            Checks.due("set before " + name, x.set(4, 0, x.callsLeft() % 257), 1);
+        }
+        Checks.due(name + " as the 512th call", answer.on(x), want);
+        Checks.dueCalls(x, 0);
     }
 
     // ---- promise 24: undo

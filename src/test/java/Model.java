@@ -24,6 +24,11 @@ final class Model {
         slots.add(null);
     }
 
+    /** The text that the program does not tell. */
+    String pad() {
+        return pad;
+    }
+
     private static boolean noRegister(int... registers) {
         for (int register : registers) {
             if (register < 0 || register > 5) {
