@@ -20,6 +20,7 @@ final class FaceTest {
         methods();
         fields();
         extremeArguments();
+        callsAfterThe512th();
         Checks.end();
     }
 
@@ -107,6 +108,24 @@ final class FaceTest {
                 x.save(a);
                 x.restore(b);
             }
+        }
+    }
+
+    /** What they answer is free, but they may not throw either. */
+    private static void callsAfterThe512th() {
+        TurnedRows x = new TurnedRows();
+        for (int call = 0; call < 1000; call++) {
+            x.put('7');
+            x.read(call % 7);
+            x.set(call % 6, call % 70, call % 257);
+            x.round(call % 6, call % 5, call % 64 + 1, call % 6);
+            x.inverse(call % 6, 64, call % 4);
+            x.divide(call % 6, call % 4, call % 5, call % 6);
+            x.turn(call % 6, 64, call % 3);
+            x.save(call % 2);
+            x.restore(call % 3);
+            x.undo();
+            x.put(0x312C322C332C342CL);
         }
     }
 }

@@ -209,7 +209,8 @@ final class LanguageTest extends TreePathScanner<Void, Void> {
 
     private static boolean isLeft(TypeMirror type, boolean mayBeTwoDimensions) {
         if (type instanceof ArrayType array) {
-            boolean numbers = array.getComponentType() instanceof ArrayType inner && inner.getComponentType().getKind().isPrimitive();
+            boolean numbers = array.getComponentType() instanceof ArrayType inner
+                    && inner.getComponentType().getKind().isPrimitive();
             return numbers ? mayBeTwoDimensions
                     : !(array.getComponentType() instanceof ArrayType) && isLeft(array.getComponentType(), false);
         }
