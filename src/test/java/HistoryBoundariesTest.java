@@ -9,6 +9,7 @@ final class HistoryBoundariesTest {
         objectIsUsedForAtMost512Calls();
         eachMethodAsThe512thCall();
         promise24NoneToUndo();
+        promise24NoneToUndoLeavesTheSlots();
         promise24AtMostSixStates();
         promise24SeventhDropsTheOldest();
         promise24AFullHistoryGoesOn();
@@ -134,6 +135,23 @@ final class HistoryBoundariesTest {
         Checks.due("count(2) after it", x.count(2), 1);
         Checks.due("undo of one again", x.undo(), 0);
         Checks.dueRow("undo of one again", x, 0, 0);
+    }
+
+    /** The same for the slots: Checks.everything would not see it, since it makes such an undo itself. */
+    private static void promise24NoneToUndoLeavesTheSlots() {
+        Counted refused = Checks.fullOfLongSlots();
+        Counted other = Checks.fullOfLongSlots();
+        for (int left = 5; left >= 0; left--) {
+            Checks.due("undo", refused.undo(), left);
+            Checks.due("undo", other.undo(), left);
+        }
+        Checks.due("undo of none", refused.undo(), Checks.NOT_POSSIBLE);
+        Checks.dueText("the rows after an undo of none", allDigests(refused), allDigests(other));
+        for (int slot = 0; slot < 2; slot++) {
+            refused.restore(slot);
+            other.restore(slot);
+            Checks.dueText("the slot " + slot + " after an undo of none", allDigests(refused), allDigests(other));
+        }
     }
 
     /** Seven changes, the first of which makes a row longer, and is the oldest one; six undos. */
